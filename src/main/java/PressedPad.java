@@ -15,6 +15,7 @@ public final class PressedPad {
     private static final int MOST_BYTES = 150;
     private static final int IMAGES = 2;
     private static final int COPY_FORCE = 2;
+    private static final int ALL_ROWS = 720;
     private static final int ODDS = 10;
     private static final int MOST_SEED = 999999;
     private static final int MOST_DRAWN = 20;
@@ -24,16 +25,14 @@ public final class PressedPad {
     private static final int TOO_FEW_SHEETS = -5;
 
     private final PenBox box = new PenBox();
-    private final Pad now = new Pad(box);
-    private final Pad draft = new Pad(box);
-    private final Pad firstImage = new Pad(box);
-    private final Pad secondImage = new Pad(box);
+    private final Pad now = new Pad();
+    private final Pad draft = new Pad();
+    private final Pad firstImage = new Pad();
+    private final Pad secondImage = new Pad();
     private final Lost trace = new Lost();
-    private final Rows rows = new Rows(now);
-    private final int[] text = new int[MOST_BYTES];
-    private final Reader reader = new Reader(text, draft);
+    private final Rows rows = new Rows();
+    private final Reader reader = new Reader();
     private final int[] lastDents = new int[CELLS];
-    private int bytes = 0;
     private int keptImages = 0;
     private long above = 0;
     private long below = 1;
@@ -75,7 +74,7 @@ public final class PressedPad {
             return full();
         }
         now.keepForUndo();
-        return now.putNote(kind, press, cells);
+        return now.putNote(box, kind, press, cells);
     }
 
     public int tear() {
@@ -116,22 +115,22 @@ public final class PressedPad {
         if (c < 0 || c > 127) {
             return bad(BAD);
         }
-        if (bytes >= MOST_BYTES) {
+        if (reader.length >= MOST_BYTES) {
             return full();
         }
-        text[bytes] = c;
-        bytes++;
-        return bytes;
+        reader.text[reader.length] = c;
+        reader.length++;
+        return reader.length;
     }
 
     public int clear() {
-        int before = bytes;
-        bytes = 0;
+        int before = reader.length;
+        reader.length = 0;
         return before;
     }
 
     public int read() {
-        int items = reader.readPad(bytes);
+        int items = reader.readInto(draft, box);
         if (items < 0) {
             return -10 - reader.fault();
         }
@@ -267,12 +266,12 @@ public final class PressedPad {
             return bad(BAD_TEN);
         }
         if (i == NONE) {
-            return rows.search(Integer.MAX_VALUE);
+            return rows.search(now, ALL_ROWS);
         }
         if (i >= now.sheets) {
             return TOO_FEW_SHEETS;
         }
-        return rows.search(1) == 0 ? NONE : rows.sheetAt(i);
+        return rows.search(now, 1) == 0 ? NONE : rows.sheetAt(i);
     }
 
     // ---- copies, rubbings
@@ -358,7 +357,7 @@ public final class PressedPad {
             x = nextDraw(x);
             int press = 1 + drawOf(x, MOST_PRESS);
             x = nextDraw(x);
-            dentLast(drawOf(x, CELL_SETS), box.forceOf(kind, press, last - top));
+            dentInto(lastDents, 0, drawOf(x, CELL_SETS), box.forceOf(kind, press, last - top));
             if (k % 3 == 0 && top < last) {
                 top++;
             }
@@ -466,7 +465,7 @@ public final class PressedPad {
             case 5:
                 return now.undoable;
             default:
-                return bytes;
+                return reader.length;
         }
     }
 
@@ -507,10 +506,12 @@ public final class PressedPad {
         return choices <= 0 ? 0 : (int) (x / 65536L % choices);
     }
 
-    private void dentLast(int cells, int force) {
+    /** A dent never gets less: in these cells of a row, the first at a place, the greater one stays. */
+    private static void dentInto(int[] row, int first, int cells, int force) {
         for (int c = 0; c < CELLS; c++) {
-            if ((cells >> c & 1) != 0) {
-                lastDents[c] = Math.max(lastDents[c], force);
+            int place = first + c;
+            if ((cells >> c & 1) != 0 && place >= 0 && place < row.length && row[place] < force) {
+                row[place] = force;
             }
         }
     }
@@ -537,35 +538,30 @@ public final class PressedPad {
     }
 
     private static class Ball extends Pencil {
-        @Override
         int forceAt(int press, int depth) {
             return super.forceAt(press + 1, depth);
         }
     }
 
     private static class Nib extends Pencil {
-        @Override
         int forceAt(int press, int depth) {
             return super.forceAt(press, depth) / 2;
         }
     }
 
     private static class Stylus extends Ball {
-        @Override
         boolean leavesInk() {
             return false;
         }
     }
 
     private static final class Felt extends Nib {
-        @Override
         int forceAt(int press, int depth) {
             return depth > 1 ? 0 : super.forceAt(press, depth);
         }
     }
 
     private static final class Tool extends Stylus {
-        @Override
         int forceAt(int press, int depth) {
             return super.forceAt(press, depth / 2);
         }
@@ -608,7 +604,6 @@ public final class PressedPad {
         private static final int SHEET_LENGTH = DENTS + CELLS;
         private static final int PAGE_LENGTH = SHEETS + MOST_SHEETS * SHEET_LENGTH;
 
-        private final PenBox box;
         private final int[] page = new int[PAGE_LENGTH];
         private final int[] earlier = new int[MOST_UNDONE * PAGE_LENGTH];
         private int undoable = 0;
@@ -621,10 +616,6 @@ public final class PressedPad {
         private final int[] noteForces = new int[MOST_NOTES * MOST_SHEETS];
         private final int[] words = new int[MOST_WORDS];
         private int wordCount = 0;
-
-        Pad(PenBox box) {
-            this.box = box;
-        }
 
         void beginAnew(int n) {
             sheets = n;
@@ -716,7 +707,7 @@ public final class PressedPad {
             return page[TORN] - 1;
         }
 
-        int putNote(int kind, int press, int cells) {
+        int putNote(PenBox box, int kind, int press, int cells) {
             int note = page[NOTES];
             int top = page[TORN];
             if (note >= MOST_NOTES || top >= sheets) {
@@ -740,12 +731,7 @@ public final class PressedPad {
         }
 
         private void pressInto(int sheet, int cells, int force) {
-            for (int c = 0; c < CELLS; c++) {
-                int place = placeOf(sheet, DENTS + c);
-                if ((cells >> c & 1) != 0 && page[place] < force) {
-                    page[place] = force;
-                }
-            }
+            dentInto(page, placeOf(sheet, DENTS), cells, force);
             // A torn sheet takes its carbon away, so the one above must still lie there.
             boolean carbonAbove = sheet > page[TORN] && (carbonBits >> sheet - 1 & 1) != 0;
             if (carbonAbove && force >= COPY_FORCE) {
@@ -829,15 +815,7 @@ public final class PressedPad {
             }
             for (int k = 0; k < pad.noteCount(); k++) {
                 if ((known >> k & 1) != 0) {
-                    explain(pad.noteCells[k], pad.forceOn(k, sheet));
-                }
-            }
-        }
-
-        private void explain(int cells, int force) {
-            for (int c = 0; c < CELLS; c++) {
-                if ((cells >> c & 1) != 0 && explained[c] < force) {
-                    explained[c] = force;
+                    dentInto(explained, 0, pad.noteCells[k], pad.forceOn(k, sheet));
                 }
             }
         }
@@ -876,34 +854,29 @@ public final class PressedPad {
     private static final class Rows {
         private static final int LEVELS = MOST_DENT + 1;
 
-        private final Pad pad;
         private final int[] row = new int[MOST_SHEETS];
         private final int[] placeOf = new int[MOST_SHEETS];
         private final int[] shownAt = new int[MOST_SHEETS * LEVELS];
         private final int[] pressed = new int[LEVELS];
         private int found = 0;
 
-        Rows(Pad pad) {
-            this.pad = pad;
-        }
-
         int sheetAt(int place) {
             return place >= 0 && place < MOST_SHEETS ? row[place] : NONE;
         }
 
         /** How many rows there are, at most so many; the row holds the last one that was found. */
-        int search(int most) {
+        int search(Pad pad, int most) {
             for (int s = 0; s < pad.sheets; s++) {
                 for (int q = 1; q < LEVELS; q++) {
                     shownAt[s * LEVELS + q] = pad.dentedAtLeast(s, q);
                 }
             }
             found = 0;
-            layFrom(0, 0, most);
+            layFrom(pad, 0, 0, most);
             return found;
         }
 
-        private void layFrom(int place, int laid, int most) {
+        private void layFrom(Pad pad, int place, int laid, int most) {
             if (place >= pad.sheets || place >= MOST_SHEETS) {
                 found++;
                 return;
@@ -912,14 +885,14 @@ public final class PressedPad {
                 if ((laid >> s & 1) == 0) {
                     row[place] = s;
                     placeOf[s] = place;
-                    if (mayLie(s, place, laid | 1 << s)) {
-                        layFrom(place + 1, laid | 1 << s, most);
+                    if (mayLie(pad, s, place, laid | 1 << s)) {
+                        layFrom(pad, place + 1, laid | 1 << s, most);
                     }
                 }
             }
         }
 
-        private boolean mayLie(int sheet, int place, int laid) {
+        private boolean mayLie(Pad pad, int sheet, int place, int laid) {
             for (int q = 1; q < LEVELS; q++) {
                 pressed[q] = 0;
             }
@@ -940,7 +913,7 @@ public final class PressedPad {
         }
     }
 
-    /** Reads a pad out of the text, token by token, into a draft, so that a fault leaves the pad as it is. */
+    /** The text. It is read token by token into a draft, so that a fault leaves the pad as it is. */
     private static final class Reader {
         private static final int END = 0;
         private static final int WORD = 1;
@@ -948,8 +921,7 @@ public final class PressedPad {
         private static final int STOP = 3;
         private static final int BROKEN = 4;
 
-        private final int[] text;
-        private final Pad draft;
+        private final int[] text = new int[MOST_BYTES];
         private int length = 0;
         private int next = 0;
         private int token = END;
@@ -958,28 +930,22 @@ public final class PressedPad {
         private int kind = 0;
         private int press = 0;
 
-        Reader(int[] text, Pad draft) {
-            this.text = text;
-            this.draft = draft;
-        }
-
         /** Reading ends at the token that can not stand there, so its start is the fault. */
         int fault() {
             return start;
         }
 
         /** How many items there are; below 0: a fault. */
-        int readPad(int bytes) {
-            length = Math.min(bytes, text.length);
+        int readInto(Pad draft, PenBox box) {
             next = 0;
             step();
-            if (!readFirst()) {
+            if (!readFirst(draft)) {
                 return NONE;
             }
             int items = 1;
             // Each item takes two bytes at least, so the text's length bounds them.
             for (int turn = 0; turn <= MOST_BYTES && token != END; turn++) {
-                if (!readItem()) {
+                if (!readItem(draft, box)) {
                     return NONE;
                 }
                 items++;
@@ -987,7 +953,7 @@ public final class PressedPad {
             return items;
         }
 
-        private boolean readFirst() {
+        private boolean readFirst(Pad draft) {
             if (!isWord("pad")) {
                 return false;
             }
@@ -1000,9 +966,9 @@ public final class PressedPad {
             return passStop();
         }
 
-        private boolean readItem() {
+        private boolean readItem(Pad draft, PenBox box) {
             if (isWord("carbon")) {
-                return readCarbon();
+                return readCarbon(draft);
             }
             boolean tears = isWord("tear");
             boolean writes = isWord("note") && draft.noteCount() < MOST_NOTES;
@@ -1014,14 +980,14 @@ public final class PressedPad {
                 draft.tearTop();
             } else if (readPen()) {
                 int cells = readCells();
-                draft.putNote(kind, press, cells);
+                draft.putNote(box, kind, press, cells);
             } else {
                 return false;
             }
             return passStop();
         }
 
-        private boolean readCarbon() {
+        private boolean readCarbon(Pad draft) {
             step();
             if (!isNumber(0, draft.sheets - 1)) {
                 return false;

@@ -111,6 +111,10 @@ public final class ModelTest {
         }
         if (turn < 44) {
             typed = drawText();
+        } else if (random.nextBoolean()) {
+            int c = pick(0, 127);
+            call = "type(" + c + ")";
+            return pair(pad.type(c), model.type(c));
         }
         call = "clear()";
         return pair(pad.clear(), model.clear());

@@ -294,6 +294,8 @@ public final class PromisesTest {
         }
         due("type", x.type(' '), -4);
         due("BAD ahead of FULL", x.type(128), -2);
+        due("status(0)", x.status(0), 3);
+        due("status(2)", x.status(2), 1);
         promise(10, "clear");
         due("clear()", x.clear(), 150);
         due("clear()", x.clear(), 0);
@@ -765,8 +767,16 @@ public final class PromisesTest {
         due("the pad as it is", x.drawn(0, 0), 8);
         due("beside its dents", x.drawn(0, 1), 8 + 2 * Integer.bitCount(9988 % 4096));
         long before = x.digest();
+        due("the last seed", x.drawn(999999, 0), 8);
         x.drawn(999999, 20);
         due("nothing is changed", x.digest(), before);
+        drawnOn(4, 0, 3, 42);
+        drawnOn(4, 1, 4, 29);
+        drawnOn(4, 7, 6, 66);
+        drawnOn(6, 12345, 7, 51);
+        drawnOn(6, 999999, 20, 78);
+        drawnOn(1, 5, 3, 65);
+        drawnOn(6, 42, 2, 18);
         due("drawn(-1, 0)", x.drawn(-1, 0), -2);
         due("drawn(1000000, 0)", x.drawn(1000000, 0), -2);
         due("drawn(0, -1)", x.drawn(0, -1), -2);
@@ -776,6 +786,13 @@ public final class PromisesTest {
         }
         due("all torn", x.drawn(0, 20), -1);
         due("BAD ahead of it", x.drawn(0, 21), -2);
+    }
+
+    /** What is due was worked out by a program of its own, in another language. */
+    private static void drawnOn(int sheets, int seed, int n, int sum) {
+        PressedPad x = new PressedPad();
+        x.pad(sheets);
+        due("drawn(" + seed + ", " + n + ") on " + sheets, x.drawn(seed, n), sum);
     }
 
     private static void images() {
