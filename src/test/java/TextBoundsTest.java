@@ -224,6 +224,11 @@ public final class TextBoundsTest {
         faultAt("pa 1;", 0);
         faultAt("pads 1;", 0);
         faultAt("padpad 1;", 0);
+        faultAt("mad 1;", 0);
+        faultAt("pat 1;", 0);
+        faultAt("pad 1;vote 0 1;", 6);
+        faultAt("pad 1;harbon 0;", 6);
+        faultAt("pad 1;bear;", 6);
         faultAt("a", 0);
         faultAt("z 1;", 0);
         faultAt("pad 1;not 0 1;", 6);
