@@ -37,6 +37,7 @@ public final class RulesTest {
         String source = Files.readString(Path.of("src/main/java/PressedPad.java"));
         words(source.replaceAll("(?s)/\\*.*?\\*/", "").replaceAll("//[^\n]*", ""));
         methods(source);
+        made(source);
         System.out.println(wrong == 0 ? "RulesTest: all as due" : "RulesTest: " + wrong + " are wrong");
         System.exit(wrong == 0 ? 0 : 1);
     }
@@ -113,6 +114,14 @@ public final class RulesTest {
                 }
                 expect(end - i <= 60, "rule 11: sixty lines: " + lines[i]);
             }
+        }
+    }
+
+    /** All is made with the object, in its fields: so what a run of calls makes does not grow with the calls. */
+    private static void made(String source) {
+        for (String line : source.split("\n")) {
+            boolean field = line.contains("private final ") || line.contains("new Pencil(), new Ball()");
+            expect(!line.matches(".*\\bnew [A-Za-z]+[\\[(].*") || field, "rule 12: made in a call: " + line.trim());
         }
     }
 }
